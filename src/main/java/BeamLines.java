@@ -680,8 +680,8 @@ public final class BeamLines {
 
         int countUpTo(int first) {
             int below = 0;
-            for (int number = 0; number < size; number++) {
-                if (first(number) <= first) {
+            for (int number = 0; number < size && number < firsts.length; number++) {
+                if (firsts[number] <= first) {
                     below++;
                 }
             }
@@ -850,7 +850,10 @@ public final class BeamLines {
             }
         }
 
-        /** Gauss and Jordan's way without fractions: each division is exact. Answers the scale of the inverse, 0 if there is none. */
+        /**
+         * Gauss and Jordan's way without fractions: each division is exact.
+         * Answers the scale of the inverse, 0 if there is none.
+         */
         private long invert() {
             long before = 1;
             for (int column = 0; column < size; column++) {
@@ -1176,19 +1179,19 @@ public final class BeamLines {
 
         /** Behind the last token there is END. */
         int kindOf(int token) {
-            return hasToken(token) ? kinds[token] : END;
+            return token >= 0 && token < tokens && token < TEXT_ROOM ? kinds[token] : END;
         }
 
         int startOf(int token) {
-            return hasToken(token) ? starts[token] : length;
+            return token >= 0 && token < tokens && token < TEXT_ROOM ? starts[token] : length;
         }
 
         int valueOf(int token) {
-            return hasToken(token) ? values[token] : 0;
+            return token >= 0 && token < tokens && token < TEXT_ROOM ? values[token] : 0;
         }
 
         boolean isWord(int token, String word) {
-            if (kindOf(token) != WORD || ends[token] - starts[token] != word.length()) {
+            if (!hasToken(token) || kinds[token] != WORD || ends[token] - starts[token] != word.length()) {
                 return false;
             }
             for (int index = 0; index < word.length(); index++) {
