@@ -5,6 +5,8 @@ final class InfluenceTest {
         {0, 3, 6, 9, 12, 15, 18, 15, 12, 9, 6, 3, 0},
         {0, 0, 0, 0, 0, 0, 0, 2, 4, 6, 8, 10, 12}};
 
+    private static final String OVERHANG = "beam 10 most 1;support 2;support 8;";
+
     public static void main(String[] args) {
         BeamLines beam = Texts.made(Texts.BRIDGE);
         promise12ReactionLine(beam);
@@ -22,7 +24,7 @@ final class InfluenceTest {
                 Check.same("reactionLine(" + support + ", " + x + ")", REACTIONS[support][x], beam.reactionLine(support, x));
             }
         }
-        BeamLines ends = Texts.made("beam 10 most 1;support 2;support 8;");
+        BeamLines ends = Texts.made(OVERHANG);
         Check.same("unit", 6, ends.unit());
         Check.same("beyond the left support", 8, ends.reactionLine(0, 0));
         Check.same("beyond the left support, the other one", -2, ends.reactionLine(1, 0));
@@ -69,6 +71,8 @@ final class InfluenceTest {
         Check.same("area(2)", -24, beam.area(2));
         Check.same("area(6)", 0, beam.area(6));
         Check.same("area of the last place", 0, beam.area(12));
+        Check.same("loads beyond the left support", -18, Texts.made(OVERHANG).area(2));
+        Check.same("loads beyond the right support", -18, Texts.made(OVERHANG).area(8));
         Check.noIndex("section 13", () -> beam.area(13));
         Check.noIndex("section -1", () -> beam.area(-1));
     }
@@ -78,6 +82,8 @@ final class InfluenceTest {
         Check.same("still(9)", 4096 + 127, beam.still(9));
         Check.same("still(2)", 4096 + 16 + 1, beam.still(2));
         Check.same("still at the hinge", 8191, beam.still(6));
+        Check.same("loads beyond the left support", 2044, Texts.made(OVERHANG).still(2));
+        Check.same("loads beyond the right support", 511, Texts.made(OVERHANG).still(8));
         Check.same("bit 30", Integer.MAX_VALUE, Texts.made("beam 30 most 1;support 0;support 30;").still(0));
         Check.noIndex("section 13", () -> beam.still(13));
         Check.noIndex("section -1", () -> beam.still(-1));
@@ -88,6 +94,9 @@ final class InfluenceTest {
             for (int x = 0; x <= 12; x++) {
                 Check.same("gap(" + section + ", " + x + ")", 0, beam.gap(section, x));
             }
+        }
+        for (int x = 0; x <= 10; x++) {
+            Check.same("left of all supports", 0, Texts.made(OVERHANG).gap(0, x));
         }
         Check.noIndex("section 13", () -> beam.gap(13, 0));
         Check.noIndex("section -1", () -> beam.gap(-1, 0));

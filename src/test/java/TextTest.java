@@ -120,6 +120,15 @@ final class TextTest {
         error("beam 10 most 5;support 0;support 10;7", -2, 36);
         error("beam 10 most 5;support 0;support 10;\u00ff", -2, 36);
         error("beam 10 most 5;beam 10 most 5;", -2, 15);
+        error("beam 10 most 5;xoad 1 at 1;", -2, 15);
+        error("beam 10 most 5;load 1 bt 1;", -2, 22);
+        // The signs just before and behind the letters and the digits.
+        error("beamz 10 most 5;", -2, 0);
+        error("beama 10 most 5;", -2, 0);
+        error("beam{10 most 5;", -2, 4);
+        error("beam`10 most 5;", -2, 4);
+        error("beam 10/ most 5;", -2, 7);
+        error("beam 10: most 5;", -2, 7);
     }
 
     private static void promise3ValueErrors() {
@@ -181,6 +190,8 @@ final class TextTest {
         error("beam 20 most 5;support 0;support 2;support 4;support 20;hinge 5;hinge 10; ", -7, 74);
         error("beam 12 most 50;support 2;support 4;support 6;hinge 8;", -7, 54);
         error("beam 12 most 50;support 2;support 4;support 6;hinge 1;", -7, 54);
+        Check.same("a hinge at the last place but one", 3, Texts.load(new BeamLines(),
+                "beam 12 most 1;support 0;support 4;support 12;hinge 11;"));
         Check.same("a beam that stands", 3, Texts.load(new BeamLines(), "beam 12 most 50;support 2;support 4;support 6;hinge 5;"));
     }
 

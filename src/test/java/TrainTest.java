@@ -133,6 +133,7 @@ final class TrainTest {
         beam.setBearing(0, 4);
         Check.same("bears too much first", 0, beam.firstDanger());
         Check.same("safe with all", -1, new BeamLines().firstDanger());
+        Check.same("safe with none", 0, Texts.made("beam 9 most 9;support 4;support 6;load 1 at 3;axle 1 behind 9;").firstDanger());
         BeamLines late = Texts.made("beam 10 most 9999;support 0;support 10 bears 4;axle 5 behind 30;");
         Check.same("late", 39, late.firstDanger());
         BeamLines last = Texts.made("beam 10 most 9999;support 0;support 9 bears 5;axle 5 behind 30;");
@@ -148,6 +149,10 @@ final class TrainTest {
         Check.same("both ends", 3, Texts.made("beam 10 most 9;support 4;support 6;axle 1 behind 30;").lifting());
         Check.same("by a load", 2, Texts.made("beam 10 most 9;support 4;support 6;load 1 at 3;").lifting());
         Check.same("the last head", 1, Texts.made("beam 10 most 9;support 0;support 9;axle 5 behind 30;").lifting());
+        // The load lifts the left support, but with each head an axle holds it down.
+        BeamLines held = Texts.made("beam 16 most 9;support 6;support 8;support 10;hinge 9;load 1 at 9;axle 1 behind 0;axle 1 behind 3;");
+        Check.same("without the train", -1, held.reaction(0, -1));
+        Check.same("heads alone", 2, held.lifting());
     }
 
     private static void promise28Share(BeamLines beam) {
@@ -170,6 +175,7 @@ final class TrainTest {
     private static void promise29Used(BeamLines beam) {
         Check.sameFloat("bridge", 192f / 720f, beam.used());
         Check.sameFloat("nothing presses", 0f, new BeamLines().used());
+        Check.sameFloat("by 1", 5f, Texts.made("beam 3 most 1;support 1;support 2;load 5 at 0;").used());
         BeamLines full = Texts.made("beam 10 most 5;support 0;support 10;load 2 at 5;");
         Check.sameFloat("just full", 1f, full.used());
         full.setMost(999999);

@@ -70,6 +70,8 @@ final class WouldTest {
         Check.same("not even 1", 0, beam.strongest());
         BeamLines held = Texts.made("beam 10 most 100;support 2;support 8;load 10 at 5;");
         Check.same("by what a load holds down", 15, held.strongest());
+        BeamLines beyond = Texts.made("beam 10 most 100;support 2;support 8;load 60 at 2;load 60 at 8;load 10 at 0;");
+        Check.same("by a moment below 0 with a load", 40, beyond.strongest());
         Check.same("a support lifts", 0, Texts.made("beam 10 most 100;support 2;support 8;load 10 at 0;").strongest());
         Check.same("down at an end", 4, Texts.made("beam 10 most 9;support 2;support 8;load 99 at 2;load 99 at 8;").strongest());
     }
