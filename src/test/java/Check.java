@@ -6,8 +6,14 @@ final class Check {
 
     private static int checks = 0;
     private static int wrong = 0;
+    private static String heading = "";
 
     private Check() {
+    }
+
+    /** The sentence of the document that the next checks are about. */
+    static void under(String sentence) {
+        heading = sentence + ": ";
     }
 
     static void same(String what, long due, long answer) {
@@ -66,7 +72,7 @@ final class Check {
     private static void tell(String line) {
         wrong++;
         if (wrong <= 40) {
-            System.out.println(line);
+            System.out.println(heading + line);
         }
     }
 

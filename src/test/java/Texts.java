@@ -30,6 +30,34 @@ final class Texts {
         return beam;
     }
 
+    /** The bridge, with three changes that can be undone, one slot saved, a text written, one in the buffer and an error told. */
+    static BeamLines busy() {
+        return busy(BRIDGE);
+    }
+
+    static BeamLines busy(String text) {
+        BeamLines beam = new BeamLines();
+        beam.save(1);
+        load(beam, text);
+        int most = beam.setMost(59);
+        beam.setMost(most);
+        beam.writeBeam();
+        load(beam, "beam x");
+        put(beam, "beam 9 most 8;support 1;support 7;load 3 at 4;");
+        return beam;
+    }
+
+    /** What a new beam answers to a text: its supports or the error code, and the position of the error. */
+    static String told(String text) {
+        BeamLines beam = new BeamLines();
+        return load(beam, text) + " at " + beam.errorPosition();
+    }
+
+    /** A text with spaces at its end, so that it has this length. */
+    static String padded(String text, int length) {
+        return text + " ".repeat(length - text.length());
+    }
+
     static String written(BeamLines beam) {
         StringBuilder text = new StringBuilder();
         int length = beam.writeBeam();
