@@ -24,6 +24,7 @@ final class EdgeBeamTest {
         terms1StandsWithOneHinge();
         terms1StandsWithTwoHinges();
         terms1StandsWithThreeHinges();
+        terms1StandsWithAllHinges();
         terms2OneLoadAlone();
         terms2LeastUnit();
         terms2UnitFromOneOn();
@@ -225,6 +226,50 @@ final class EdgeBeamTest {
         falls(FIVE + "hinge 1;hinge 9;hinge 15;");
     }
 
+    /** No parts side by side may have more supports together than their number and one more; else others have too few. */
+    private static boolean stands(BeamLines beam, int... hinges) {
+        int[] supports = new int[hinges.length + 1];
+        for (int number = 0; number < hinges.length + 2; number++) {
+            int part = 0;
+            while (part < hinges.length && hinges[part] < beam.support(number, 0)) {
+                part++;
+            }
+            supports[part]++;
+        }
+        for (int first = 0; first < supports.length; first++) {
+            int sum = 0;
+            for (int last = first; last < supports.length; last++) {
+                sum += supports[last];
+                if (sum > last - first + 2) {
+                    return false;
+                }
+            }
+        }
+        return true;
+    }
+
+    private static void terms1StandsWithAllHinges() {
+        Check.under("terms 1, there is just one way for the reactions, wherever the hinges are");
+        BeamLines four = Texts.made(FOUR + "hinge 7;hinge 11;");
+        for (int first = 1; first <= 17; first++) {
+            for (int second = first + 1; second <= 17; second++) {
+                String text = FOUR + "hinge " + second + ";hinge " + first + ";";
+                if (!FOUR.contains("support " + first + ";") && !FOUR.contains("support " + second + ";")) {
+                    tells(stands(four, first, second) ? "4 at -1" : "-7 at " + text.length(), text);
+                }
+            }
+        }
+        BeamLines five = Texts.made(FIVE + "hinge 9;hinge 15;hinge 21;");
+        for (int first = 1; first <= 29; first += 3) {
+            for (int second = first + 3; second <= 29; second += 3) {
+                for (int third = second + 3; third <= 29; third += 3) {
+                    String text = FIVE + "hinge " + first + ";hinge " + second + ";hinge " + third + ";";
+                    tells(stands(five, first, second, third) ? "5 at -1" : "-7 at " + text.length(), text);
+                }
+            }
+        }
+    }
+
     private static void terms2OneLoadAlone() {
         Check.under("terms 2, an influence is that of one load without any other");
         BeamLines beam = Texts.made("beam 10 most 9;support 0;support 10;load 999 at 3;axle 999 behind 0;");
@@ -260,7 +305,8 @@ final class EdgeBeamTest {
         Check.same("supports side by side", 1, Texts.made("beam 30 most 9;support 14;support 15;").unit());
         Check.same("two apart", 2, Texts.made("beam 30 most 9;support 14;support 16;").unit());
         Check.same("as far as can be", 30, Texts.made("beam 30 most 9;support 0;support 30;").unit());
-        // The equations of balance alone would give a determinant below 0 here.
+        Check.same("side by side with a hinge right", 1, Texts.made("beam 4 most 9;support 0;support 1;support 3;hinge 2;").unit());
+        Check.same("side by side with a hinge left", 1, Texts.made("beam 4 most 9;support 0;support 2;support 3;hinge 1;").unit());
         Check.same("with a hinge left", 2, Texts.made("beam 9 most 9;support 1;support 3;support 5;hinge 2;").unit());
         Check.same("with a hinge right", 2, Texts.made("beam 9 most 9;support 1;support 3;support 5;hinge 4;").unit());
     }

@@ -11,10 +11,12 @@ final class EdgeChangeTest {
         promise33AllPlaces();
         promise33OwnPlace();
         promise33NumberedAnew();
+        promise33AllElseStays();
         promise33LowestReason();
         promise33DoesNotExist();
         promise34AllPlaces();
         promise34OwnPlace();
+        promise34AllElseStays();
         promise34LowestReason();
         promise34PlaceOutOfRange();
         promise34DoesNotExist();
@@ -109,6 +111,53 @@ final class EdgeChangeTest {
         Check.same("the hinges stay", 7 * 15, beam.hinge(0) * beam.hinge(1));
         Check.same("just beside its old place", 1, beam.moveSupport(1, 9));
         Check.same("the lines are those of the new places", beam.unit(), beam.reactionLine(1, 9));
+    }
+
+    /** A beam that is none of those that were read, tried or refused before. */
+    private static BeamLines changedOften() {
+        BeamLines beam = Texts.made(Texts.BRIDGE);
+        beam.tryHinge(0, 5);
+        beam.moveSupport(0, 1);
+        beam.moveSupport(2, 5);
+        beam.setMost(77);
+        beam.setBearing(0, 88);
+        beam.addLoad(9, 9);
+        beam.dropAxle(0);
+        beam.undo();
+        beam.dropAxle(1);
+        return beam;
+    }
+
+    private static void allElseStays(BeamLines beam) {
+        int[] due = {12, 3, 1, 4, 1, 77, 17, 5, 12};
+        for (int what = 0; what < due.length; what++) {
+            Check.same("count(" + what + ")", due[what], beam.count(what));
+        }
+        Check.same("bearing of the left support", 88, beam.support(0, 1));
+        Check.same("bearing of the right support", 20, beam.support(2, 1));
+        Check.same("the latest load", 9, beam.weight(3, 1));
+        Check.same("the axle", 0, beam.axle(0, 1));
+    }
+
+    private static void promise33AllElseStays() {
+        Check.under("promise 33, all else stays as it is");
+        BeamLines beam = changedOften();
+        Check.same("moved", 1, beam.moveSupport(1, 3));
+        Check.same("left", 1, beam.support(0, 0));
+        Check.same("middle", 3, beam.support(1, 0));
+        Check.same("right", 12, beam.support(2, 0));
+        Check.same("hinge", 6, beam.hinge(0));
+        allElseStays(beam);
+    }
+
+    private static void promise34AllElseStays() {
+        Check.under("promise 34, all else stays as it is");
+        BeamLines beam = changedOften();
+        Check.same("moved", 0, beam.moveHinge(0, 8));
+        Check.same("left", 1, beam.support(0, 0));
+        Check.same("middle", 4, beam.support(1, 0));
+        Check.same("hinge", 8, beam.hinge(0));
+        allElseStays(beam);
     }
 
     private static void promise33LowestReason() {

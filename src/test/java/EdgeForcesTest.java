@@ -18,6 +18,7 @@ final class EdgeForcesTest {
         promise19Heads();
         promise19DoesNotExist();
         promise20Heads();
+        promise20BehindALongerBeam();
         promise20DoesNotExist();
         promise21Heads();
         promise21DoesNotExist();
@@ -123,6 +124,17 @@ final class EdgeForcesTest {
         Same.badArgument("1 without axles", EdgeForcesTest::withoutAxles, beam -> beam.moment(5, 1));
         Same.answers("59", 29, EdgeForcesTest::longestWay, beam -> beam.moment(29, 59));
         Same.badArgument("61", EdgeForcesTest::longestWay, beam -> beam.moment(29, 61));
+    }
+
+    private static void promise20BehindALongerBeam() {
+        Check.under("promise 20, nothing is left of a longer beam");
+        BeamLines beam = Texts.made("beam 30 most 9;support 0;support 30;load 999 at 10;");
+        Check.same("at 10 of the longer one", 999 * 200, beam.moment(10, 0));
+        Texts.load(beam, SPAN + "load 1 at 5;");
+        Check.same("at the last place", 0, beam.moment(10, 0));
+        Check.same("its influence", 0, beam.momentLine(10, 5));
+        Check.same("none without the load", 0, beam.dropLoad(0) - 1 + beam.worstSection());
+        Check.same("safe", 0, beam.danger(0));
     }
 
     private static void promise20DoesNotExist() {

@@ -29,6 +29,7 @@ final class EdgeTextTest {
         promise2GreatestBytes();
         promise2LengthOf500();
         promise2TooLong();
+        promise2EachByteAtTheEdge();
         promise2AfterLoad();
         promise3NumberOfSupports();
         promise3ErrorKeepsThePresentBeam();
@@ -406,6 +407,19 @@ final class EdgeTextTest {
         Check.badState("501 by eleven bytes", () -> beam.append(-1, -1, 0x00202020, 0, 0));
         Check.same("ten bytes still fit", 500, beam.append(0x20202020, 0x20202020, 0x00002020, 0, 0));
         Check.same("and nothing of the eleven was kept", 2, beam.load());
+    }
+
+    private static void promise2EachByteAtTheEdge() {
+        Check.under("promise 2, each byte but 0 counts, wherever it stands");
+        for (int index = 0; index < 20; index++) {
+            for (int one : new int[] {1, 16, 128, 255}) {
+                int[] fours = new int[5];
+                fours[index / 4] = one << 24 - index % 4 * 8;
+                BeamLines beam = withBuffer(499);
+                Check.same("500 by the byte " + index, 500, beam.append(fours[0], fours[1], fours[2], fours[3], fours[4]));
+                Check.badState("501 by the byte " + index, () -> beam.append(fours[0], fours[1], fours[2], fours[3], fours[4]));
+            }
+        }
     }
 
     private static void promise2AfterLoad() {

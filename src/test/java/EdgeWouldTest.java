@@ -9,17 +9,20 @@ final class EdgeWouldTest {
         promise30AllPlaces();
         promise30LowestReason();
         promise30PlaceOutOfRange();
+        promise30AsTheBeamIsNow();
         promise30DoesNotExist();
         promise31FirstAndLastPlace();
         promise31Leftmost();
         promise31OwnPlace();
         promise31OnlyWhereItStands();
         promise31NotTimesTheUnit();
+        promise31LessThanOneApart();
         promise31AllHeads();
         promise31DoesNotExist();
         promise32ByTheMoment();
         promise32ByTheBearing();
         promise32ByWhatLifts();
+        promise32ByTheLeastInfluence();
         promise32LeastAndGreatest();
         promise32NotSafeWithoutTheTrain();
         promise32AllHeads();
@@ -69,6 +72,22 @@ final class EdgeWouldTest {
         for (int place : FAR_OFF) {
             Same.badArgument("" + place, Texts::busy, beam -> beam.tryHinge(0, place));
         }
+    }
+
+    private static void promise30AsTheBeamIsNow() {
+        Check.under("promise 30, the beam as it is now");
+        BeamLines beam = Texts.made("beam 12 most 50;support 0;support 4;support 12;hinge 6;");
+        Check.same("the old support", -11, beam.tryHinge(0, 4));
+        beam.moveSupport(1, 8);
+        Check.same("where it was", 0, beam.tryHinge(0, 4));
+        Check.same("where it is", -11, beam.tryHinge(0, 8));
+        beam.undo();
+        Check.same("where it is again", -11, beam.tryHinge(0, 4));
+        Check.same("where it was", 0, beam.tryHinge(0, 8));
+        Texts.load(beam, "beam 9 most 9;support 0;support 1;x");
+        Check.same("a text with an error is forgotten", 0, beam.tryHinge(0, 1));
+        beam.moveSupport(2, 5);
+        Check.same("a refusal is forgotten", 0, beam.tryHinge(0, 5));
     }
 
     private static void promise30DoesNotExist() {
@@ -128,6 +147,17 @@ final class EdgeWouldTest {
                 beam -> beam.bestHinge(0));
     }
 
+    private static void promise31LessThanOneApart() {
+        Check.under("promise 31, least as a number, though less than one apart");
+        // 3/2 at 3, 1 at 4 and at 5.
+        Same.answers("3/2 and 1", 4, () -> Texts.busy("beam 8 most 9;support 1;support 6;support 8;hinge 3;load 1 at 0;"),
+                beam -> beam.bestHinge(0));
+        for (int weight = 1; weight <= 9; weight++) {
+            String text = "beam 12 most 50;support 0;support 6;support 12;hinge 9;axle " + weight + " behind 0;";
+            Same.answers("5 or 7 with the weight " + weight, 5, () -> Texts.busy(text), beam -> beam.bestHinge(0));
+        }
+    }
+
     private static void promise31AllHeads() {
         Check.under("promise 31, of all heads");
         // Without the train any place would do; the only weight comes onto the beam with the last head.
@@ -175,6 +205,13 @@ final class EdgeWouldTest {
         Check.same("the left support lifts first", 6, strongest(100, BEYOND + "load 6 at 6;"));
         Check.same("nothing holds it", 0, strongest(100, BEYOND));
         Check.same("a load holds one of them", 0, strongest(100, BEYOND + "load 9 at 2;"));
+    }
+
+    private static void promise32ByTheLeastInfluence() {
+        Check.under("promise 32, by an influence of one by the unit");
+        // An axle at 0 lifts the right support by 1/9 of its weight, and the load holds it down with 1.
+        Check.same("just none lifts", 9, strongest(100, ";support 1;support 10;load 1 at 10;"));
+        Check.same("on the other side", 9, strongest(100, ";support 0;support 9;load 1 at 0;"));
     }
 
     private static void promise32LeastAndGreatest() {

@@ -17,45 +17,53 @@ final class ModelTest {
     private long seed = 20261119;
     private BeamLines beam;
     private Model model;
+    private int calls;
 
     public static void main(String[] args) {
         ModelTest test = new ModelTest();
-        for (int run = 0; run < 400; run++) {
+        for (int run = 0; run < 500; run++) {
             test.run(run);
         }
-        for (int run = 0; run < 3000; run++) {
+        for (int run = 0; run < 8000; run++) {
             test.runTexts(run);
         }
         Check.end();
     }
 
-    private void run(int run) {
+    private void start() {
         beam = new BeamLines();
         model = new Model();
-        int calls = 0;
-        while (calls < 490) {
+        calls = 0;
+    }
+
+    /** Behind the 512th call the answers are free; the longest step makes 70 calls. */
+    private boolean hasCallsLeft() {
+        return calls < 440;
+    }
+
+    private void run(int run) {
+        start();
+        while (hasCallsLeft()) {
             if (calls == 0 || pick(60) == 0) {
-                calls += putText(text(pick(6) == 0));
-                callBoth(run, calls, "load", 0, 0);
+                putText(text(pick(6) == 0));
+                callBoth(run, "load", 0, 0);
             }
             String name = NAMES[pick(NAMES.length)];
-            callBoth(run, calls, name, argument(name, 0), argument(name, 1));
-            calls++;
+            callBoth(run, name, argument(name, 0), argument(name, 1));
         }
     }
 
     /** Nothing but texts, most of them with an error. */
     private void runTexts(int run) {
-        beam = new BeamLines();
-        model = new Model();
-        for (int calls = 0; calls < 300; calls++) {
-            calls += putText(text(pick(3) != 0));
-            callBoth(run, calls, "load", 0, 0);
-            callBoth(run, calls, "errorPosition", 0, 0);
-            callBoth(run, calls, "unit", 0, 0);
-            callBoth(run, calls, "writeBeam", 0, 0);
+        start();
+        while (hasCallsLeft()) {
+            putText(text(pick(3) != 0));
+            callBoth(run, "load", 0, 0);
+            callBoth(run, "errorPosition", 0, 0);
+            callBoth(run, "unit", 0, 0);
+            callBoth(run, "writeBeam", 0, 0);
             for (int what = 0; what <= 8; what++) {
-                callBoth(run, calls, "count", what, 0);
+                callBoth(run, "count", what, 0);
             }
         }
     }
@@ -125,8 +133,7 @@ final class ModelTest {
         return text.toString();
     }
 
-    private int putText(String text) {
-        int calls = 0;
+    private void putText(String text) {
         for (int start = 0; start < text.length(); start += 20) {
             int[] fours = new int[5];
             for (int index = start; index < start + 20 && index < text.length(); index++) {
@@ -136,7 +143,6 @@ final class ModelTest {
             Check.same("append of " + text, due, append(f -> beam.append(f[0], f[1], f[2], f[3], f[4]), fours));
             calls++;
         }
-        return calls;
     }
 
     private interface Append {
@@ -184,13 +190,14 @@ final class ModelTest {
         }
     }
 
-    private void callBoth(int run, int calls, String name, int a, int b) {
+    private void callBoth(int run, String name, int a, int b) {
+        calls++;
         String due = answer(model, name, a, b);
         String what = "run " + run + ", call " + calls + ": " + name + "(" + a + ", " + b + ")";
         Check.sameText(what, due, answer(beam, name, a, b));
         if (name.equals("writeBeam")) {
             for (int index = Integer.parseInt(due); index >= 0; index--) {
-                callBoth(run, calls, "writtenByte", index, 0);
+                callBoth(run, "writtenByte", index, 0);
             }
         }
     }
